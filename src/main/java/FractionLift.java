@@ -69,11 +69,10 @@ public final class FractionLift {
     private int undoable;
     private final Reckoner reckoner;
     private final Ratio asked;
-    private final Ratio other;
+    private final Ratio spare;
     private final long[] terms;
-    private final int[] firstRow;
-    private final int[] secondRow;
-    private Landings landings;
+    private final int[] counts;
+    private Routes routes;
     private Watcher watcher;
 
     public FractionLift() {
@@ -89,10 +88,9 @@ public final class FractionLift {
         undoable = 0;
         reckoner = new Reckoner();
         asked = new Ratio();
-        other = new Ratio();
+        spare = new Ratio();
         terms = new long[MOST_IN_TRAY];
-        firstRow = new int[MOST_IN_ROW];
-        secondRow = new int[MOST_IN_ROW];
+        counts = new int[MOST_COUNTED_LOWER + 1];
     }
 
     // ---- the house
@@ -289,8 +287,8 @@ public final class FractionLift {
         if (!asksFloor(up, low)) {
             return BAD_NUMBER;
         }
-        now.stuffAt(stuff, asked.up, asked.low, other);
-        return other.part(what);
+        now.stuffAt(stuff, asked.up, asked.low, spare);
+        return spare.part(what);
     }
 
     public long where(int stuff, int n, int what) {
@@ -300,14 +298,14 @@ public final class FractionLift {
         if (n < 0 || n > 99) {
             return BAD_NUMBER;
         }
-        return now.leastLevel(stuff, NONE, n, other) ? other.part(what) : NONE;
+        return now.leastLevel(stuff, NONE, n, spare) ? spare.part(what) : NONE;
     }
 
     public long alike(int stuff, int other, int what) {
         if (!isStuff(stuff) || !isStuff(other) || stuff == other || what < 0 || what > 1) {
             return NO_SUCH;
         }
-        return now.leastLevel(stuff, other, 0, asked) ? asked.part(what) : NONE;
+        return now.leastLevel(stuff, other, 0, spare) ? spare.part(what) : NONE;
     }
 
     public int most(int stuff) {
@@ -335,8 +333,8 @@ public final class FractionLift {
             return NOT_NOW;
         }
         for (int s = 0; s < MOST_STUFFS; s++) {
-            now.stuffAt(s, asked.up, asked.low, other);
-            now.newStuffs[s] = (int) other.whole();
+            now.stuffAt(s, asked.up, asked.low, spare);
+            now.newStuffs[s] = (int) spare.whole();
         }
         now.addFloor((int) asked.up, (int) asked.low);
         return now.floorCount - 1;
@@ -351,19 +349,21 @@ public final class FractionLift {
         if (!asksFloor(up, low)) {
             return BAD_NUMBER;
         }
-        int n = seekFewest((int) asked.up, (int) asked.low);
+        Routes from = routesFromHere();
+        int n = from.seekFewest((int) asked.up, (int) asked.low);
         if (n < 0 || what == 0) {
             return n;
         }
-        return what - 10 < n ? firstRow[what - 10] : NONE;
+        return what - 10 < n ? from.firstRow[what - 10] : NONE;
     }
 
     public int reach(int n) {
         if (n < 0 || n > MOST_LAYERS) {
             return BAD_NUMBER;
         }
-        int begin = layFloors(n);
-        return landings.size - begin;
+        Routes from = routesFromHere();
+        int begin = from.layFloors(n);
+        return from.landings.size - begin;
     }
 
     public int highest(int n, int what) {
@@ -373,16 +373,12 @@ public final class FractionLift {
         if (n < 0 || n > MOST_LAYERS) {
             return BAD_NUMBER;
         }
-        int best = NONE;
-        for (int i = layFloors(n); i < landings.size; i++) {
-            if (best == NONE || landings.isBelow(best, i)) {
-                best = i;
-            }
-        }
+        Routes from = routesFromHere();
+        int best = from.greatestFrom(from.layFloors(n));
         if (best == NONE) {
             return NONE;
         }
-        return what == 0 ? landings.up[best] : landings.low[best];
+        return what == 0 ? from.landings.up[best] : from.landings.low[best];
     }
 
     public int twins(int what) {
@@ -391,7 +387,8 @@ public final class FractionLift {
         if (what != 0 && !ofFirst && !ofSecond) {
             return NO_SUCH;
         }
-        int n = seekTwins();
+        Routes from = routesFromHere();
+        int n = from.seekTwins();
         if (n == NONE || what == 0) {
             return n;
         }
@@ -399,7 +396,7 @@ public final class FractionLift {
         if (k >= n) {
             return NONE;
         }
-        return ofFirst ? firstRow[k] : secondRow[k];
+        return ofFirst ? from.firstRow[k] : from.secondRow[k];
     }
 
     public int never(int m, int up, int low) {
@@ -430,11 +427,12 @@ public final class FractionLift {
         if (t < 0 || t >= tenants || u < 0 || u >= tenants || t == u || what < 0 || what > 2) {
             return NO_SUCH;
         }
-        int turns = seekMeeting(t, u, waits);
+        Routes from = routesFromHere();
+        int turns = from.seekMeeting(t, u, waits);
         if (turns == NONE || what == 0) {
             return turns;
         }
-        return (int) asked.part(what - 1);
+        return what == 1 ? from.landings.up[from.meeting] : from.landings.low[from.meeting];
     }
 
     // ---- addresses, neighbours
@@ -458,7 +456,7 @@ public final class FractionLift {
             return BAD_NUMBER;
         }
         boolean found = above ? seekAbove(d) : seekBelow(d);
-        return found ? (int) other.part(what) : NONE;
+        return found ? (int) spare.part(what) : NONE;
     }
 
     public int simplest(int up, int low, int otherUp, int otherLow, int what) {
@@ -468,18 +466,18 @@ public final class FractionLift {
         if (!asksFloor(otherUp, otherLow)) {
             return BAD_NUMBER;
         }
-        other.put(asked.up, asked.low);
+        spare.put(asked.up, asked.low);
         if (!asksFloor(up, low)) {
             return BAD_NUMBER;
         }
-        int order = asked.compared(other);
+        int order = asked.compared(spare);
         if (order == 0) {
             return BAD_NUMBER;
         }
         if (order < 0) {
-            seekSimplest(asked.up, asked.low, other.up, other.low);
+            seekSimplest(asked.up, asked.low, spare.up, spare.low);
         } else {
-            seekSimplest(other.up, other.low, asked.up, asked.low);
+            seekSimplest(spare.up, spare.low, asked.up, asked.low);
         }
         return (int) asked.part(what);
     }
@@ -515,16 +513,16 @@ public final class FractionLift {
         if (t < 0 || t >= now.tenantCount || what < 0 || what > 1) {
             return NO_SUCH;
         }
-        now.rentOf(t, other);
-        return other.part(what);
+        now.rentOf(t, spare);
+        return spare.part(what);
     }
 
     public int rents() {
         long sum = 0;
         for (int t = 0; t < now.tenantCount; t++) {
-            now.rentOf(t, other);
-            other.put(other.up * 100, other.low);
-            sum += other.whole();
+            now.rentOf(t, spare);
+            spare.put(spare.up * 100, spare.low);
+            sum += spare.whole();
         }
         return (int) sum;
     }
@@ -536,11 +534,11 @@ public final class FractionLift {
         if (!asksFloor(up, low) || asked.low > MOST_LOWER_TOLD) {
             return BAD_NUMBER;
         }
-        now.rentOf(t, other);
+        now.rentOf(t, spare);
         now.tenantUp[t] = (int) asked.up;
         now.tenantLow[t] = (int) asked.low;
         now.rentOf(t, asked);
-        return asked.compared(other);
+        return asked.compared(spare);
     }
 
     public long fairest(int t, int what) {
@@ -551,16 +549,16 @@ public final class FractionLift {
             return NONE;
         }
         seekFairest(t);
-        return what < 2 ? asked.part(what) : other.part(what - 2);
+        return what < 2 ? asked.part(what) : spare.part(what - 2);
     }
 
     public int richest() {
         int best = NONE;
         for (int t = 0; t < now.tenantCount; t++) {
-            now.rentOf(t, other);
-            if (best == NONE || other.compared(asked) > 0) {
+            now.rentOf(t, spare);
+            if (best == NONE || spare.compared(asked) > 0) {
                 best = t;
-                asked.put(other.up, other.low);
+                asked.put(spare.up, spare.low);
             }
         }
         return best;
@@ -576,8 +574,9 @@ public final class FractionLift {
         if (!fewRows(trays[tray].size)) {
             return SPENT;
         }
-        watchRows(trays[tray], k);
-        return k == NONE ? watcher.fitting : watcher.wantedDigits;
+        Watcher all = watcherHere();
+        all.watchAll(now, trays[tray], k);
+        return k == NONE ? all.fitting : all.wantedDigits;
     }
 
     public int sure(int tray, int place) {
@@ -591,8 +590,9 @@ public final class FractionLift {
         if (!fewRows(trays[tray].size)) {
             return SPENT;
         }
-        watchRows(trays[tray], NONE);
-        return watcher.fitting > 0 ? watcher.common[place] : NONE;
+        Watcher all = watcherHere();
+        all.watchAll(now, trays[tray], NONE);
+        return all.fitting > 0 ? all.common[place] : NONE;
     }
 
     public long odds(int tray, int up, int low) {
@@ -603,9 +603,9 @@ public final class FractionLift {
         if (!asksFloor(up, low) || !hasButtonsAlone(trays[tray])) {
             return BAD_NUMBER;
         }
-        int begin = layChances(trays[tray]);
-        int i = landings.find((int) asked.up, (int) asked.low, begin, landings.size);
-        return i >= 0 && i < landings.weight.length ? landings.weight[i] : 0L;
+        Routes from = routesFromHere();
+        int begin = from.layChances(trays[tray]);
+        return from.landings.weightOf((int) asked.up, (int) asked.low, begin);
     }
 
     public int ends(int tray) {
@@ -616,8 +616,9 @@ public final class FractionLift {
         if (!hasButtonsAlone(trays[tray])) {
             return BAD_NUMBER;
         }
-        int begin = layChances(trays[tray]);
-        return landings.size - begin;
+        Routes from = routesFromHere();
+        int begin = from.layChances(trays[tray]);
+        return from.landings.size - begin;
     }
 
     // ---- trays, images
@@ -803,14 +804,14 @@ public final class FractionLift {
     }
 
     private static long commonFactor(long a, long b) {
-        long p = Math.abs(a);
-        long q = Math.abs(b);
+        long p = a;
+        long q = b;
         for (int i = 0; i < EUCLID_STEPS && q != 0; i++) {
             long rest = p % q;
             p = q;
             q = rest;
         }
-        return p;
+        return p < 0 ? -p : p;
     }
 
     private static int inverseBy(int r, int m) {
@@ -828,181 +829,6 @@ public final class FractionLift {
         }
         int inverse = inverseBy((int) (low % m), m);
         return inverse == NONE ? NONE : (int) (up % m) * inverse % m;
-    }
-
-    // ---- searches over floors
-
-    /** Empties the landings, which are made when they are first needed, as they are the dearest rows. */
-    private void clearLandings() {
-        if (landings == null) {
-            landings = new Landings();
-        }
-        landings.clearAll();
-    }
-
-    private int seekFewest(int up, int low) {
-        if (now.atUp == up && now.atLow == low) {
-            return 0;
-        }
-        clearLandings();
-        landings.put(now.atUp, now.atLow, NONE);
-        int begin = 0;
-        for (int n = 1; n <= MOST_IN_ROW; n++) {
-            int end = landings.size;
-            if (stepTowards(up, low, begin, end)) {
-                traceRow(landings.target, n, firstRow);
-                return n;
-            }
-            if (landings.size > MOST_MET) {
-                return SPENT;
-            }
-            if (landings.size == end) {
-                return NONE;
-            }
-            begin = end;
-        }
-        return NONE;
-    }
-
-    /** No more are kept than tell that too many were met: beyond these only the told floor matters. */
-    private boolean stepTowards(int up, int low, int begin, int end) {
-        for (int i = begin; i < end; i++) {
-            for (int b = 0; b < now.buttonCount; b++) {
-                if (reckoner.lead(now, b, landings.up[i], landings.low[i]) != 0) {
-                    continue;
-                }
-                if (reckoner.up == up && reckoner.low == low) {
-                    landings.target = i * MOST_BUTTONS + b;
-                    return true;
-                }
-                if (landings.size <= MOST_MET
-                        && landings.find(reckoner.up, reckoner.low, 0, landings.size) == NONE) {
-                    landings.put(reckoner.up, reckoner.low, i * MOST_BUTTONS + b);
-                }
-            }
-        }
-        return false;
-    }
-
-    /** Walks back from a step (landing times 6 and button) and lays out the n buttons that led there. */
-    private void traceRow(int step, int n, int[] row) {
-        int back = step;
-        for (int k = n - 1; k >= 0 && back >= 0; k--) {
-            if (k < row.length) {
-                row[k] = back % MOST_BUTTONS;
-            }
-            int landing = back / MOST_BUTTONS;
-            back = landing < landings.size ? landings.came[landing] : NONE;
-        }
-    }
-
-    /** Floors that just n buttons lead to stand from the answer on to the landings' end. */
-    private int layFloors(int n) {
-        clearLandings();
-        landings.put(now.atUp, now.atLow, NONE);
-        int begin = 0;
-        for (int k = 1; k <= n; k++) {
-            int end = landings.size;
-            spread(begin, end, end);
-            begin = end;
-        }
-        return begin;
-    }
-
-    /** Where all buttons lead from landings begin to end - 1, each floor once among those from fresh on. */
-    private void spread(int begin, int end, int fresh) {
-        for (int i = begin; i < end; i++) {
-            for (int b = 0; b < now.buttonCount; b++) {
-                if (reckoner.lead(now, b, landings.up[i], landings.low[i]) == 0
-                        && landings.find(reckoner.up, reckoner.low, fresh, landings.size) == NONE) {
-                    landings.put(reckoner.up, reckoner.low, i * MOST_BUTTONS + b);
-                }
-            }
-        }
-    }
-
-    /** As long as there are no twins each landing is one row, in the rows' order. */
-    private int seekTwins() {
-        clearLandings();
-        landings.put(now.atUp, now.atLow, NONE);
-        int begin = 0;
-        for (int n = 1; n <= MOST_LAYERS; n++) {
-            int end = landings.size;
-            if (stepToTwins(begin, end, n)) {
-                return n;
-            }
-            begin = end;
-        }
-        return NONE;
-    }
-
-    private boolean stepToTwins(int begin, int end, int n) {
-        for (int i = begin; i < end; i++) {
-            for (int b = 0; b < now.buttonCount; b++) {
-                if (reckoner.lead(now, b, landings.up[i], landings.low[i]) != 0) {
-                    continue;
-                }
-                int step = i * MOST_BUTTONS + b;
-                int twin = landings.find(reckoner.up, reckoner.low, end, landings.size);
-                if (twin != NONE) {
-                    traceRow(landings.came[twin], n, firstRow);
-                    traceRow(step, n, secondRow);
-                    return true;
-                }
-                landings.put(reckoner.up, reckoner.low, step);
-            }
-        }
-        return false;
-    }
-
-    /** The turns till two tenants meet; the floor is put into asked. */
-    private int seekMeeting(int t, int u, boolean waits) {
-        clearLandings();
-        landings.put(now.tenantUp[t], now.tenantLow[t], NONE);
-        landings.put(now.tenantUp[u], now.tenantLow[u], NONE);
-        int firstBegin = 0;
-        int secondBegin = 1;
-        for (int turns = 0; turns <= MOST_TURNS; turns++) {
-            int end = landings.size;
-            if (leastCommon(firstBegin, secondBegin, end)) {
-                return turns;
-            }
-            if (turns < MOST_TURNS) {
-                spread(firstBegin, secondBegin, end);
-                int fresh = landings.size;
-                if (waits) {
-                    repeat(secondBegin, end, fresh);
-                }
-                spread(secondBegin, end, fresh);
-                firstBegin = end;
-                secondBegin = fresh;
-            }
-        }
-        return NONE;
-    }
-
-    /** Who waits stays where he was. */
-    private void repeat(int begin, int end, int fresh) {
-        for (int i = begin; i < end; i++) {
-            if (landings.find(landings.up[i], landings.low[i], fresh, landings.size) == NONE) {
-                landings.put(landings.up[i], landings.low[i], NONE);
-            }
-        }
-    }
-
-    private boolean leastCommon(int firstBegin, int secondBegin, int end) {
-        int best = NONE;
-        for (int i = secondBegin; i < end; i++) {
-            if ((best == NONE || landings.isBelow(i, best))
-                    && landings.find(landings.up[i], landings.low[i], firstBegin, secondBegin) != NONE) {
-                best = i;
-            }
-        }
-        if (best == NONE) {
-            return false;
-        }
-        asked.put(landings.up[best], landings.low[best]);
-        return true;
     }
 
     // ---- remainders
@@ -1061,7 +887,7 @@ public final class FractionLift {
         return n;
     }
 
-    /** The next floor above asked is put into other. */
+    /** The next floor above asked is put into spare. */
     private boolean seekAbove(int d) {
         long bestUp = now.top + 1;
         long bestLow = 1;
@@ -1075,11 +901,11 @@ public final class FractionLift {
                 bestLow = q;
             }
         }
-        other.put(bestUp, bestLow);
-        return now.isFloor(other.up, other.low);
+        spare.put(bestUp, bestLow);
+        return now.isFloor(spare.up, spare.low);
     }
 
-    /** The next floor below asked is put into other. */
+    /** The next floor below asked is put into spare. */
     private boolean seekBelow(int d) {
         long bestUp = NONE;
         long bestLow = 1;
@@ -1093,8 +919,8 @@ public final class FractionLift {
                 bestLow = q;
             }
         }
-        other.put(bestUp, bestLow);
-        return now.isFloor(other.up, other.low);
+        spare.put(bestUp, bestLow);
+        return now.isFloor(spare.up, spare.low);
     }
 
     /**
@@ -1139,14 +965,13 @@ public final class FractionLift {
         if (low < 1) {
             return sum;
         }
-        int[] own = reckoner.counts;
-        for (int q = 1; q <= d && q < own.length; q++) {
-            own[q] = (int) ((up * q + low - 1) / low);
+        for (int q = 1; q <= d && q < counts.length; q++) {
+            counts[q] = (int) ((up * q + low - 1) / low);
         }
-        for (int q = 1; q <= d && q < own.length; q++) {
-            sum += own[q];
-            for (int times = 2 * q; times <= d && times < own.length; times += q) {
-                own[times] -= own[q];
+        for (int q = 1; q <= d && q < counts.length; q++) {
+            sum += counts[q];
+            for (int times = 2 * q; times <= d && times < counts.length; times += q) {
+                counts[times] -= counts[q];
             }
         }
         return sum;
@@ -1154,17 +979,17 @@ public final class FractionLift {
 
     /** The parts of asked come into terms: how many, or -4. */
     private int layParts() {
-        other.put(asked.up - asked.whole() * asked.low, asked.low);
+        spare.put(asked.up - asked.whole() * asked.low, asked.low);
         int n = 0;
-        for (int i = 0; i < terms.length && other.up > 0; i++) {
-            long part = (other.low + other.up - 1) / other.up;
+        for (int i = 0; i < terms.length && spare.up > 0; i++) {
+            long part = (spare.low + spare.up - 1) / spare.up;
             if (part > WAY_LIMIT) {
                 return TOO_MANY;
             }
             terms[i] = part;
             n++;
-            other.put(other.up * part - other.low, other.low * part);
-            if (other.low > WAY_LIMIT) {
+            spare.put(spare.up * part - spare.low, spare.low * part);
+            if (spare.low > WAY_LIMIT) {
                 return TOO_MANY;
             }
         }
@@ -1173,7 +998,7 @@ public final class FractionLift {
 
     // ---- the fairest floor
 
-    /** Puts the fairest floor into asked, how far it is from all others into other. */
+    /** Puts the fairest floor into asked, how far it is from all others into spare. */
     private void seekFairest(int t) {
         long unit = fairUnit(t);
         long best = NONE;
@@ -1189,7 +1014,7 @@ public final class FractionLift {
             }
         }
         asked.put(bestSpot, unit);
-        other.put(best, unit);
+        spare.put(best, unit);
     }
 
     /** One by this is a measure that all other tenants and all floors that may be fair are whole numbers of. */
@@ -1218,7 +1043,7 @@ public final class FractionLift {
         return far;
     }
 
-    // ---- seen rows and odds
+    // ---- searches
 
     private boolean fewRows(int n) {
         long rows = 1;
@@ -1228,42 +1053,20 @@ public final class FractionLift {
         return rows <= MOST_ROWS_SEEN;
     }
 
-    private void watchRows(Tray seen, int wanted) {
+    /** What searches need is made when it is first asked for: it is the dearest of all. */
+    private Routes routesFromHere() {
+        if (routes == null) {
+            routes = new Routes(reckoner);
+        }
+        routes.begin(now);
+        return routes;
+    }
+
+    private Watcher watcherHere() {
         if (watcher == null) {
             watcher = new Watcher(reckoner);
         }
-        watcher.watchAll(now, seen, wanted);
-    }
-
-    /** Floors at which the lift may be behind a row stand from the answer on, each with its weight. */
-    private int layChances(Tray row) {
-        clearLandings();
-        landings.put(now.atUp, now.atLow, NONE);
-        landings.weight[0] = 1;
-        int begin = 0;
-        for (int k = 0; k < row.size; k++) {
-            int end = landings.size;
-            int button = row.smallAt(k);
-            for (int i = begin; i < end && i < MOST_CHANCES; i++) {
-                branch(i, button, end);
-            }
-            begin = end;
-        }
-        return begin;
-    }
-
-    private void branch(int i, int button, int fresh) {
-        long weight = landings.weight[i];
-        int up = landings.up[i];
-        int low = landings.low[i];
-        if (reckoner.lead(now, button, up, low) != 0) {
-            landings.addWeight(up, low, fresh, weight * 10);
-            return;
-        }
-        landings.addWeight(reckoner.up, reckoner.low, fresh, weight * (10 - now.stick));
-        if (now.stick > 0) {
-            landings.addWeight(up, low, fresh, weight * now.stick);
-        }
+        return watcher;
     }
 
     // ---- classes inside
@@ -1499,27 +1302,161 @@ public final class FractionLift {
         }
     }
 
+    /** The tokens of a text, up to the first place where none begins. */
+    private static final class Tokens {
+        static final int WRONG = 0;
+        static final int END = 1;
+        static final int NUMBER = 2;
+        static final int OTHER_WORD = 3;
+        static final int TOP = 4;
+        static final int BUTTON = 5;
+        static final int FLOOR = 6;
+        static final int TENANT = 7;
+        static final int AT = 8;
+        static final int STICK = 9;
+        static final int HAS = 10;
+        static final int X = 11;
+
+        int size;
+        /** Of a sign its byte. */
+        final int[] kinds;
+        final int[] places;
+        /** Of an N how much it is. */
+        final int[] amounts;
+        private int[] text;
+        private int length;
+
+        Tokens() {
+            kinds = new int[MOST_BYTES + 1];
+            places = new int[MOST_BYTES + 1];
+            amounts = new int[MOST_BYTES + 1];
+        }
+
+        /** The last one is WRONG or the END. */
+        void scanAll(int[] bytes, int n) {
+            text = bytes;
+            length = Math.min(n, bytes.length);
+            size = 0;
+            int begin = behindBlanks(0);
+            for (int i = 0; i < length && begin < length; i++) {
+                int end = endOf(begin);
+                int kind = kindOf(begin, end);
+                add(kind, begin, kind == NUMBER ? amountOf(begin, end) : 0);
+                if (kind == WRONG) {
+                    return;
+                }
+                begin = behindBlanks(end);
+            }
+            add(END, length, 0);
+        }
+
+        private void add(int kind, int place, int amount) {
+            if (size < kinds.length) {
+                kinds[size] = kind;
+                places[size] = place;
+                amounts[size] = amount;
+                size++;
+            }
+        }
+
+        private int behindBlanks(int from) {
+            int i = from;
+            while (i < length && (text[i] == 32 || text[i] == 10)) {
+                i++;
+            }
+            return i;
+        }
+
+        private int endOf(int begin) {
+            int i = begin;
+            if (isDigit(text[begin])) {
+                while (i < length && isDigit(text[i])) {
+                    i++;
+                }
+                return i;
+            }
+            while (i < length && isLetter(text[i])) {
+                i++;
+            }
+            return i == begin ? begin + 1 : i;
+        }
+
+        private int kindOf(int begin, int end) {
+            int first = text[begin];
+            if (isDigit(first)) {
+                return end - begin > 3 ? WRONG : NUMBER;
+            }
+            if (isLetter(first)) {
+                return wordKind(begin, end - begin);
+            }
+            return isSign(first) ? first : WRONG;
+        }
+
+        private int amountOf(int begin, int end) {
+            int amount = 0;
+            for (int i = begin; i < end; i++) {
+                amount = amount * 10 + text[i] - '0';
+            }
+            return amount;
+        }
+
+        private int wordKind(int begin, int n) {
+            if (isWord("x", begin, n)) {
+                return X;
+            }
+            if (isWord("top", begin, n)) {
+                return TOP;
+            }
+            if (isWord("button", begin, n)) {
+                return BUTTON;
+            }
+            if (isWord("floor", begin, n)) {
+                return FLOOR;
+            }
+            if (isWord("has", begin, n)) {
+                return HAS;
+            }
+            if (isWord("tenant", begin, n)) {
+                return TENANT;
+            }
+            if (isWord("at", begin, n)) {
+                return AT;
+            }
+            return isWord("stick", begin, n) ? STICK : OTHER_WORD;
+        }
+
+        private boolean isWord(String word, int begin, int n) {
+            if (word.length() != n) {
+                return false;
+            }
+            for (int i = 0; i < n; i++) {
+                if (text[begin + i] != word.charAt(i)) {
+                    return false;
+                }
+            }
+            return true;
+        }
+
+        private static boolean isDigit(int c) {
+            return c >= '0' && c <= '9';
+        }
+
+        private static boolean isLetter(int c) {
+            return c >= 'a' && c <= 'z';
+        }
+
+        private static boolean isSign(int c) {
+            return c >= '(' && c <= '+' || c == '-' || c == '/' || c == ':' || c == ';';
+        }
+    }
+
     /** Reads a text into a house, up to the first fault. */
     private static final class Reader {
-        private static final int WRONG = 0;
-        private static final int END = 1;
-        private static final int NUMBER = 2;
-        private static final int OTHER_WORD = 3;
-        private static final int TOP = 4;
-        private static final int BUTTON = 5;
-        private static final int FLOOR = 6;
-        private static final int TENANT = 7;
-        private static final int AT = 8;
-        private static final int STICK = 9;
-        private static final int HAS = 10;
-        private static final int X = 11;
-
         House into;
         int faultKind;
         int faultPlace;
-        private int[] text;
-        private int length;
-        private int pos;
+        private final Tokens tokens;
+        private int index;
         /** The token that is looked at: its kind (a sign: its byte), its place, its number. */
         private int kind;
         private int place;
@@ -1533,21 +1470,20 @@ public final class FractionLift {
 
         Reader() {
             into = new House();
+            tokens = new Tokens();
             signs = new int[PILE];
             fraction = new Ratio();
         }
 
         void readAll(int[] bytes, int n) {
-            text = bytes;
-            length = Math.min(n, bytes.length);
-            pos = 0;
             faultKind = 0;
             faultPlace = NONE;
             atTold = false;
             codeSize = 0;
             into.untell();
-            next();
-            for (int i = 0; i <= length && kind != END; i++) {
+            tokens.scanAll(bytes, n);
+            lookAt(0);
+            for (int i = 0; i < tokens.size && kind != Tokens.END; i++) {
                 if (!line() || !closes()) {
                     return;
                 }
@@ -1556,17 +1492,17 @@ public final class FractionLift {
 
         private boolean line() {
             switch (kind) {
-                case TOP:
+                case Tokens.TOP:
                     return topLine();
-                case BUTTON:
+                case Tokens.BUTTON:
                     return buttonLine();
-                case FLOOR:
+                case Tokens.FLOOR:
                     return floorLine();
-                case TENANT:
+                case Tokens.TENANT:
                     return tenantLine();
-                case AT:
+                case Tokens.AT:
                     return atLine();
-                case STICK:
+                case Tokens.STICK:
                     return stickLine();
                 default:
                     return cantStand();
@@ -1631,7 +1567,7 @@ public final class FractionLift {
                 return failed(4);
             }
             next();
-            if (!fractionThen(HAS)) {
+            if (!fractionThen(Tokens.HAS)) {
                 return false;
             }
             if (into.floorAt(fraction.up, fraction.low) != NONE) {
@@ -1689,7 +1625,7 @@ public final class FractionLift {
         }
 
         private boolean numberWithin(int least, int most) {
-            if (kind != NUMBER) {
+            if (kind != Tokens.NUMBER) {
                 return cantStand();
             }
             if (number < least || number > most) {
@@ -1705,7 +1641,7 @@ public final class FractionLift {
             int nested = 0;
             boolean wantsAtom = true;
             signCount = 0;
-            for (int i = 0; i <= length; i++) {
+            for (int i = 0; i < tokens.size; i++) {
                 if (wantsAtom && kind == '(') {
                     if (nested >= MOST_NESTED) {
                         return failed(4);
@@ -1738,13 +1674,13 @@ public final class FractionLift {
 
         private boolean atom() {
             switch (kind) {
-                case NUMBER:
+                case Tokens.NUMBER:
                     emit(number);
                     return true;
-                case X:
+                case Tokens.X:
                     emit(CODE_X);
                     return true;
-                case TOP:
+                case Tokens.TOP:
                     emit(CODE_TOP);
                     return true;
                 default:
@@ -1803,7 +1739,7 @@ public final class FractionLift {
         }
 
         private boolean cantStand() {
-            return failed(kind == WRONG ? 1 : 2);
+            return failed(kind == Tokens.WRONG ? 1 : 2);
         }
 
         /** The fault is at the token that is looked at. */
@@ -1813,93 +1749,18 @@ public final class FractionLift {
             return false;
         }
 
-        /** Looks at the next token. */
+        /** Looks at a token; the last one is never left. */
+        private void lookAt(int i) {
+            index = Math.min(i, tokens.size - 1);
+            if (index >= 0) {
+                kind = tokens.kinds[index];
+                place = tokens.places[index];
+                number = tokens.amounts[index];
+            }
+        }
+
         private void next() {
-            int i = pos;
-            for (; i < length && (text[i] == 32 || text[i] == 10); i++) {
-                pos = i + 1;
-            }
-            place = i;
-            if (i >= length) {
-                kind = END;
-            } else if (isDigit(text[i])) {
-                nextNumber();
-            } else if (isLetter(text[i])) {
-                nextWord();
-            } else {
-                kind = isSign(text[i]) ? text[i] : WRONG;
-                pos = i + 1;
-            }
-        }
-
-        private void nextNumber() {
-            number = 0;
-            int i = place;
-            for (; i < length && isDigit(text[i]); i++) {
-                if (i < place + 3) {
-                    number = number * 10 + text[i] - '0';
-                }
-            }
-            pos = i;
-            kind = i - place > 3 ? WRONG : NUMBER;
-        }
-
-        private void nextWord() {
-            int i = place;
-            for (; i < length && isLetter(text[i]); i++) {
-                pos = i + 1;
-            }
-            pos = i;
-            kind = wordKind();
-        }
-
-        private int wordKind() {
-            if (isWord("x")) {
-                return X;
-            }
-            if (isWord("top")) {
-                return TOP;
-            }
-            if (isWord("button")) {
-                return BUTTON;
-            }
-            if (isWord("floor")) {
-                return FLOOR;
-            }
-            if (isWord("has")) {
-                return HAS;
-            }
-            if (isWord("tenant")) {
-                return TENANT;
-            }
-            if (isWord("at")) {
-                return AT;
-            }
-            return isWord("stick") ? STICK : OTHER_WORD;
-        }
-
-        private boolean isWord(String word) {
-            if (pos - place != word.length()) {
-                return false;
-            }
-            for (int i = 0; i < word.length(); i++) {
-                if (text[place + i] != word.charAt(i)) {
-                    return false;
-                }
-            }
-            return true;
-        }
-
-        private static boolean isDigit(int c) {
-            return c >= '0' && c <= '9';
-        }
-
-        private static boolean isLetter(int c) {
-            return c >= 'a' && c <= 'z';
-        }
-
-        private static boolean isSign(int c) {
-            return c >= '(' && c <= '+' || c == '-' || c == '/' || c == ':' || c == ';';
+            lookAt(index + 1);
         }
     }
 
@@ -1908,14 +1769,11 @@ public final class FractionLift {
         /** Where the latest button led that can be. */
         int up;
         int low;
-        /** A row for the count of fractions by lower numbers. */
-        final int[] counts;
         private final long[] ups;
         private final long[] lows;
         private int piled;
 
         Reckoner() {
-            counts = new int[MOST_COUNTED_LOWER + 1];
             ups = new long[PILE];
             lows = new long[PILE];
         }
@@ -2057,7 +1915,6 @@ public final class FractionLift {
         /** How much the first landings weigh, where odds are asked. */
         final long[] weight;
         int size;
-        int target;
         private final int[] heads;
         private final int[] nexts;
 
@@ -2109,6 +1966,11 @@ public final class FractionLift {
             return (long) up[i] * low[than] < (long) up[than] * low[i];
         }
 
+        long weightOf(int u, int l, int begin) {
+            int i = find(u, l, begin, size);
+            return i >= 0 && i < MOST_CHANCES ? weight[i] : 0;
+        }
+
         void addWeight(int u, int l, int begin, long more) {
             int i = find(u, l, begin, size);
             if (i == NONE) {
@@ -2120,6 +1982,222 @@ public final class FractionLift {
             }
             if (i < MOST_CHANCES) {
                 weight[i] += more;
+            }
+        }
+    }
+
+    /** Searches over floors, from where the lift is. */
+    private static final class Routes {
+        final Landings landings;
+        final int[] firstRow;
+        final int[] secondRow;
+        /** The landing at which two tenants meet. */
+        int meeting;
+        private final Reckoner reckoner;
+        private House house;
+        /** The step to the told floor: a landing times 6 and the button. */
+        private int lastStep;
+
+        Routes(Reckoner shared) {
+            reckoner = shared;
+            landings = new Landings();
+            firstRow = new int[MOST_IN_ROW];
+            secondRow = new int[MOST_IN_ROW];
+        }
+
+        void begin(House here) {
+            house = here;
+            landings.clearAll();
+            landings.put(here.atUp, here.atLow, NONE);
+        }
+
+        int seekFewest(int up, int low) {
+            if (house.atUp == up && house.atLow == low) {
+                return 0;
+            }
+            int begin = 0;
+            for (int n = 1; n <= MOST_IN_ROW; n++) {
+                int end = landings.size;
+                if (stepTowards(up, low, begin, end)) {
+                    traceRow(lastStep, n, firstRow);
+                    return n;
+                }
+                if (landings.size > MOST_MET) {
+                    return SPENT;
+                }
+                if (landings.size == end) {
+                    return NONE;
+                }
+                begin = end;
+            }
+            return NONE;
+        }
+
+        /** No more are kept than show that too many were met: beyond these only the told floor matters. */
+        private boolean stepTowards(int up, int low, int begin, int end) {
+            for (int i = begin; i < end; i++) {
+                for (int b = 0; b < house.buttonCount; b++) {
+                    if (reckoner.lead(house, b, landings.up[i], landings.low[i]) != 0) {
+                        continue;
+                    }
+                    if (reckoner.up == up && reckoner.low == low) {
+                        lastStep = i * MOST_BUTTONS + b;
+                        return true;
+                    }
+                    if (landings.size <= MOST_MET
+                            && landings.find(reckoner.up, reckoner.low, 0, landings.size) == NONE) {
+                        landings.put(reckoner.up, reckoner.low, i * MOST_BUTTONS + b);
+                    }
+                }
+            }
+            return false;
+        }
+
+        /** Walks back from a step and lays out the n buttons that led there. */
+        private void traceRow(int step, int n, int[] row) {
+            int back = step;
+            for (int k = n - 1; k >= 0 && k < row.length && back >= 0; k--) {
+                row[k] = back % MOST_BUTTONS;
+                int landing = back / MOST_BUTTONS;
+                back = landing < landings.size ? landings.came[landing] : NONE;
+            }
+        }
+
+        /** Floors that just n buttons lead to stand from the answer on to the landings' end. */
+        int layFloors(int n) {
+            int begin = 0;
+            for (int k = 1; k <= n; k++) {
+                int end = landings.size;
+                spread(begin, end, end);
+                begin = end;
+            }
+            return begin;
+        }
+
+        /** Where all buttons lead from landings begin to end - 1, each floor once among those from fresh on. */
+        private void spread(int begin, int end, int fresh) {
+            for (int i = begin; i < end; i++) {
+                for (int b = 0; b < house.buttonCount; b++) {
+                    if (reckoner.lead(house, b, landings.up[i], landings.low[i]) == 0
+                            && landings.find(reckoner.up, reckoner.low, fresh, landings.size) == NONE) {
+                        landings.put(reckoner.up, reckoner.low, i * MOST_BUTTONS + b);
+                    }
+                }
+            }
+        }
+
+        int greatestFrom(int begin) {
+            int best = NONE;
+            for (int i = begin; i < landings.size; i++) {
+                if (best == NONE || landings.isBelow(best, i)) {
+                    best = i;
+                }
+            }
+            return best;
+        }
+
+        /** As long as there are no twins each landing is one row, in the rows' order. */
+        int seekTwins() {
+            int begin = 0;
+            for (int n = 1; n <= MOST_LAYERS; n++) {
+                int end = landings.size;
+                if (stepToTwins(begin, end, n)) {
+                    return n;
+                }
+                begin = end;
+            }
+            return NONE;
+        }
+
+        private boolean stepToTwins(int begin, int end, int n) {
+            for (int i = begin; i < end; i++) {
+                for (int b = 0; b < house.buttonCount; b++) {
+                    if (reckoner.lead(house, b, landings.up[i], landings.low[i]) != 0) {
+                        continue;
+                    }
+                    int step = i * MOST_BUTTONS + b;
+                    int twin = landings.find(reckoner.up, reckoner.low, end, landings.size);
+                    if (twin != NONE) {
+                        traceRow(landings.came[twin], n, firstRow);
+                        traceRow(step, n, secondRow);
+                        return true;
+                    }
+                    landings.put(reckoner.up, reckoner.low, step);
+                }
+            }
+            return false;
+        }
+
+        /** The turns till two tenants meet. The first one's floors stand ahead of the second one's. */
+        int seekMeeting(int t, int u, boolean waits) {
+            int firstBegin = landings.size;
+            landings.put(house.tenantUp[t], house.tenantLow[t], NONE);
+            int secondBegin = landings.size;
+            landings.put(house.tenantUp[u], house.tenantLow[u], NONE);
+            for (int turns = 0; turns <= MOST_TURNS; turns++) {
+                int end = landings.size;
+                meeting = leastCommon(firstBegin, secondBegin, end);
+                if (meeting != NONE) {
+                    return turns;
+                }
+                if (turns < MOST_TURNS) {
+                    spread(firstBegin, secondBegin, end);
+                    int fresh = landings.size;
+                    if (waits) {
+                        stay(secondBegin, end);
+                    }
+                    spread(secondBegin, end, fresh);
+                    firstBegin = end;
+                    secondBegin = fresh;
+                }
+            }
+            return NONE;
+        }
+
+        /** Who waits is once more where he was. */
+        private void stay(int begin, int end) {
+            for (int i = begin; i < end; i++) {
+                landings.put(landings.up[i], landings.low[i], NONE);
+            }
+        }
+
+        private int leastCommon(int firstBegin, int secondBegin, int end) {
+            int best = NONE;
+            for (int i = secondBegin; i < end; i++) {
+                if ((best == NONE || landings.isBelow(i, best))
+                        && landings.find(landings.up[i], landings.low[i], firstBegin, secondBegin) != NONE) {
+                    best = i;
+                }
+            }
+            return best;
+        }
+
+        /** Floors at which the lift may be behind a row stand from the answer on, each with its weight. */
+        int layChances(Tray row) {
+            landings.weight[0] = 1;
+            int begin = 0;
+            for (int k = 0; k < row.size; k++) {
+                int end = landings.size;
+                int button = row.smallAt(k);
+                for (int i = begin; i < end && i < MOST_CHANCES; i++) {
+                    branch(i, button, end);
+                }
+                begin = end;
+            }
+            return begin;
+        }
+
+        private void branch(int i, int button, int fresh) {
+            long weight = landings.weight[i];
+            int up = landings.up[i];
+            int low = landings.low[i];
+            if (reckoner.lead(house, button, up, low) != 0) {
+                landings.addWeight(up, low, fresh, weight * 10);
+                return;
+            }
+            landings.addWeight(reckoner.up, reckoner.low, fresh, weight * (10 - house.stick));
+            if (house.stick > 0) {
+                landings.addWeight(up, low, fresh, weight * house.stick);
             }
         }
     }
