@@ -642,11 +642,7 @@ public final class FractionLift {
         if (refused != 0) {
             return refused;
         }
-        Tray into = trays[tray];
-        if (i < 0 || i >= into.size) {
-            return NO_PLACE;
-        }
-        return into.lay(i, v);
+        return trays[tray].lay(i, v);
     }
 
     public int copy(int tray) {
@@ -1248,7 +1244,7 @@ public final class FractionLift {
                 return;
             }
             int k = order[place];
-            if (place == 0 || floorUp[k] == up && floorLow[k] == low) {
+            if (place == 0) {
                 into.put(stuffOf(k, stuff), 1);
                 return;
             }
@@ -2218,6 +2214,7 @@ public final class FractionLift {
             Arrays.fill(values, 0L);
         }
 
+        /** Number i as it is there then, or that there is none. */
         long lay(int i, long v) {
             if (i < 0 || i >= size) {
                 return NO_PLACE;

@@ -121,6 +121,18 @@ public final class Promises {
         faultOf(" \n ", 0, -1);
         faultOf(";", 2, 0);
         faultOf("at 1;\t", 1, 5);
+        faultOf("bt 1;", 2, 0);
+        faultOf("z", 2, 0);
+        faultOf("{", 1, 0);
+        faultOf("`", 1, 0);
+        faultOf("has 3;", 2, 0);
+        faultOf("x 3;", 2, 0);
+        faultOf("floor 1 stick 1 2 3;", 2, 8);
+        faultOf("floor 1/2;", 2, 9);
+        faultOf("button:y;", 2, 7);
+        faultOf("button:stick;", 2, 7);
+        faultOf("at 1.", 1, 4);
+        faultOf("at 1,", 1, 4);
         faultOf("At 1;", 1, 0);
         faultOf("at 0001;", 1, 3);
         faultOf("at 001;", 0, -1);
@@ -165,6 +177,9 @@ public final class Promises {
         faultOf("tenant 1;tenant 1;tenant 1;tenant 1;tenant 1;tenant 1;tenant 1;", 4, 54);
         due("house(1)", x.house(1), -3);
         due("fault(0)", x.fault(0), 0);
+        x.feed(0x61742031, 0x3030303b, 0, 0, 0);
+        due("at 100, cut", x.house(6), -32);
+        due("fault(1)", x.fault(1), 6);
         tell(x, "at");
         due("house(1)", x.house(1), -3);
         due("fault(1)", x.fault(1), 2);
@@ -224,10 +239,25 @@ public final class Promises {
         due("a lower number of 998001", y.leads(4, 1, 1, 1), 998001);
         due("a lower number above 1000000", y.leads(4, 1, 2, 1), -14);
         due("on the way", y.leads(5, 1, 1, 1), -13);
+        limits();
         due("1000000 is a floor's number", y.leads(0, 999999, 1000000, 0), -14);
         due("as lower number", x.leads(3, 1, 1000000, 1), 500000);
         due("1000001 is none", x.leads(3, 1, 1000001, 1), -3);
         due("in any terms", x.leads(3, 1000002, 1000002, 0), 2);
+    }
+
+    /** On the way 1,000,000,000 can be, 1,000,000,001 can't, above and below. */
+    private static void limits() {
+        String big = "500*2*500*2*500*2";
+        FractionLift x = told("button:" + big + "/500/500/500/8*x;button:(0-" + big + ")/500/500/500/8+x+1;"
+                + "button:(" + big + "+1)*0;button:1/500/2/500/2/500/2*0;button:1/7/11/13/19/(52*999+631)*0;"
+                + "button:(0-1-" + big + ")*0;");
+        fraction("above", x.leads(0, 3, 2, 0), x.leads(0, 3, 2, 1), 3, 2);
+        fraction("above, with a sign", x.leads(1, 3, 2, 0), x.leads(1, 3, 2, 1), 3, 2);
+        due("above, more", x.leads(2, 1, 1, 0), -13);
+        due("below", x.leads(3, 1, 1, 0), 0);
+        due("below, more", x.leads(4, 1, 1, 0), -13);
+        due("above, more, with a sign", x.leads(5, 1, 1, 0), -13);
     }
 
     private static void pressing() {
@@ -330,6 +360,8 @@ public final class Promises {
         fraction("has between", x.has(0, 4, 3, 0), x.has(0, 4, 3, 1), 55, 3);
         fraction("has between", x.has(1, 2, 3, 0), x.has(1, 2, 3, 1), 220, 3);
         fraction("has far", x.has(1, 700001, 1000000, 0), x.has(1, 700001, 1000000, 1), 699999, 10000);
+        FractionLift same = told("floor 1/2 has 9 0 0;floor 1/4 has 3 0 0;");
+        fraction("has between", same.has(0, 1, 3, 0), same.has(0, 1, 3, 1), 5, 1);
         due("has stuff", x.has(3, -1, 1, 0), -2);
         due("has stuff", x.has(-1, -1, 1, 0), -2);
         due("has what", x.has(0, -1, 1, 2), -2);
@@ -422,6 +454,12 @@ public final class Promises {
         due("a row of 7", many.fewest(many.judge(0, 2), many.judge(0, 3), 0), 7);
         due("its sixth", many.fewest(many.judge(0, 2), many.judge(0, 3), 15), 3);
         due("its seventh", many.fewest(many.judge(0, 2), many.judge(0, 3), 16), 0);
+        FractionLift just = told("top 1;button:x+183/999;button:x+230/999;button:x+203/999;button:x+435/999/999;"
+                + "button:x+90/999;button:x+983/999/999;");
+        due("2000 are met by 8", just.fewest(1, 1000000, 0), -1);
+        FractionLift more = told("top 1;button:x+399/999;button:x+40/999;button:x+360/999/999;button:x+263/999;"
+                + "button:x+15/999/999;button:x+812/999/999;");
+        due("2001 are met by 8", more.fewest(1, 1000000, 0), FractionLift.SPENT);
         due("its eighth", many.fewest(many.judge(0, 2), many.judge(0, 3), 17), -1);
     }
 
@@ -494,6 +532,10 @@ public final class Promises {
         due("top is 4", z.rests(9), 1 << 5 | 1 << 0 | 1 << 4 | 1 << 8 | 1 << 3 | 1 << 7 | 1 << 2 | 1 << 6 | 1 << 1);
         due("without buttons", told("at 1/2;").rests(5), 1 << 3);
         due("below 0", told("button:x-1-1-1;at 1;").rests(3), 2);
+        due("0 in a sum", told("button:x+0;at 1;").rests(5), 2);
+        FractionLift late = told("button:x/(2*3*5*7)/(11*13)/(17*19)/23*(2*3*5*7)*(11*13)*(17*19)*23;at 1;");
+        promise = 25;
+        due("shown late", late.shown(2, 1), 29);
     }
 
     private static void meetings() {
@@ -509,6 +551,12 @@ public final class Promises {
         due("meet one", x.meet(1, 1, true, 0), -2);
         due("meet tenant", x.meet(4, 1, true, 0), -2);
         due("meet tenant", x.meet(1, -1, true, 0), -2);
+        due("meet tenant", x.meet(1, 4, true, 0), -2);
+        FractionLift late = told("top 9;button:x+1;tenant 0;tenant 4;tenant 5;");
+        due("by 4", late.meet(0, 1, true, 0), 4);
+        due("by 4", late.meet(0, 1, true, 1), 4);
+        due("not by 5", late.meet(0, 2, true, 0), -1);
+        due("not by 5", late.meet(0, 2, true, 2), -1);
         due("meet what", x.meet(0, 1, true, 3), -2);
         FractionLift y = told("button:x+1;button:x/2;button:4-x;tenant 1;tenant 3;");
         // by two turns 2 and 3 are common to both
