@@ -786,9 +786,7 @@ public final class FractionLift {
             return why;
         }
         if (undoable >= MOST_UNDONE) {
-            System.arraycopy(undoUp, 1, undoUp, 0, MOST_UNDONE - 1);
-            System.arraycopy(undoLow, 1, undoLow, 0, MOST_UNDONE - 1);
-            undoable = MOST_UNDONE - 1;
+            forgetEldest();
         }
         undoUp[undoable] = now.atUp;
         undoLow[undoable] = now.atLow;
@@ -797,6 +795,14 @@ public final class FractionLift {
         now.atLow = reckoner.low;
         now.pressed++;
         return 0;
+    }
+
+    private void forgetEldest() {
+        for (int i = 1; i < MOST_UNDONE; i++) {
+            undoUp[i - 1] = undoUp[i];
+            undoLow[i - 1] = undoLow[i];
+        }
+        undoable = MOST_UNDONE - 1;
     }
 
     private static long commonFactor(long a, long b) {
@@ -1217,7 +1223,9 @@ public final class FractionLift {
                 return;
             }
             int place = toldBelow(up, low);
-            System.arraycopy(order, place, order, place + 1, floorCount - place);
+            for (int i = floorCount; i > place; i--) {
+                order[i] = order[i - 1];
+            }
             order[place] = floorCount;
             floorUp[floorCount] = up;
             floorLow[floorCount] = low;
