@@ -1,51 +1,7 @@
 /** The promises one by one: ordinary inputs, the edges that the document names, wrong inputs. */
-public final class Promises {
-    private static int wrong = 0;
-    private static int promise = 0;
-
-    private static void due(String call, long got, long want) {
-        if (got != want) {
-            wrong++;
-            System.out.println("promise " + promise + ": " + call + " answered " + got + ", due is " + want);
-        }
-    }
-
-    /** A text comes onto the tape, blanks behind it, and is read. */
-    private static int tell(FractionLift x, String text) {
-        int[] v = new int[5];
-        for (int begin = 0; begin < text.length(); begin += 20) {
-            for (int i = 0; i < 20; i++) {
-                int c = begin + i < text.length() ? text.charAt(begin + i) : ' ';
-                v[i / 4] = v[i / 4] << 8 | c;
-            }
-            x.feed(v[0], v[1], v[2], v[3], v[4]);
-        }
-        return x.house(text.length());
-    }
-
-    private static FractionLift told(String text) {
-        FractionLift x = new FractionLift();
-        int lines = tell(x, text);
-        if (lines < 0) {
-            due("house(\"" + text + "\")", lines, 0);
-        }
-        return x;
-    }
-
-    private static void tray(FractionLift x, int tray, int sort, long... values) {
-        due("numbers", x.numbers(tray, sort, values.length), 0);
-        for (int i = 0; i < values.length; i++) {
-            due("write", x.write(tray, i, values[i]), values[i]);
-        }
-    }
-
-    private static void fraction(String call, long up, long low, long wantUp, long wantLow) {
-        due(call + ", upper", up, wantUp);
-        due(call + ", lower", low, wantLow);
-    }
-
+public final class Promises extends Bench {
     private static void newObject() {
-        promise = 1;
+        promise(1);
         FractionLift x = new FractionLift();
         int[] counts = {4, 0, 0, 0, 0, 0, 0, 0, 0};
         for (int i = 0; i < counts.length; i++) {
@@ -59,7 +15,7 @@ public final class Promises {
     }
 
     private static void feeding() {
-        promise = 2;
+        promise(2);
         FractionLift x = new FractionLift();
         for (int i = 1; i <= 45; i++) {
             due("feed " + i, x.feed(0x61742031, 0x3b202020, 0x20202020, 0x20202020, 0x20202020), 20 * i);
@@ -73,7 +29,7 @@ public final class Promises {
     }
 
     private static void reading() {
-        promise = 3;
+        promise(3);
         FractionLift x = told("top 5; button: x + 1; floor 9/2 has 1 2 3; tenant 4/6; at 2/4; stick 3;\n");
         int[] counts = {5, 1, 1, 1, 3, 0, 0, 0, 6};
         for (int i = 0; i < counts.length; i++) {
@@ -113,7 +69,7 @@ public final class Promises {
     }
 
     private static void faults() {
-        promise = 4;
+        promise(4);
         FractionLift x = new FractionLift();
         due("fault(2)", x.fault(2), FractionLift.NONE);
         due("fault(-1)", x.fault(-1), FractionLift.NONE);
@@ -189,12 +145,12 @@ public final class Promises {
     }
 
     private static void places() {
-        promise = 5;
+        promise(5);
         FractionLift x = told("at 6/4;floor 3 has 1 2 3;floor 1/2 has 4 5 6;tenant 0/9;tenant 10/4;");
         fraction("at", x.at(0), x.at(1), 3, 2);
         due("at(2)", x.at(2), -2);
         due("at(-1)", x.at(-1), -2);
-        promise = 6;
+        promise(6);
         int[] of0 = {3, 1, 1, 2, 3, 1};
         int[] of1 = {1, 2, 4, 5, 6, 0};
         for (int i = 0; i < 6; i++) {
@@ -205,7 +161,7 @@ public final class Promises {
         due("floor(-1, 0)", x.floor(-1, 0), -2);
         due("floor(0, 6)", x.floor(0, 6), -2);
         due("floor(0, -1)", x.floor(0, -1), -2);
-        promise = 7;
+        promise(7);
         fraction("tenant 0", x.tenant(0, 0), x.tenant(0, 1), 0, 1);
         fraction("tenant 1", x.tenant(1, 0), x.tenant(1, 1), 5, 2);
         due("tenant(2, 0)", x.tenant(2, 0), -2);
@@ -214,7 +170,7 @@ public final class Promises {
     }
 
     private static void buttons() {
-        promise = 8;
+        promise(8);
         FractionLift x = told("button:1/x;button:999*999*999*999;button:x-1;button:x*2;button:999*999*999*999/0;"
                 + "button:1/0+999*999*999*999;");
         int[] why = {2, 3, 4, 0, 3, 2, 1};
@@ -222,7 +178,7 @@ public final class Promises {
             due("why(" + i + ")", x.why(i), why[i]);
         }
         due("why(-1)", x.why(-1), 1);
-        promise = 9;
+        promise(9);
         fraction("leads(0)", x.leads(0, 4, 6, 0), x.leads(0, 4, 6, 1), 3, 2);
         due("leads what", x.leads(9, -1, 1, 2), -2);
         due("leads floor", x.leads(9, -1, 1, 1), -3);
@@ -261,7 +217,7 @@ public final class Promises {
     }
 
     private static void pressing() {
-        promise = 10;
+        promise(10);
         FractionLift x = told("top 9;button:x+1/9;button:1/x;button:x-9;button:999*999*999*999;");
         due("press(1)", x.press(1), -12);
         due("press(2)", x.press(2), -14);
@@ -273,7 +229,7 @@ public final class Promises {
             due("press(0)", x.press(0), Math.min(i, 12));
         }
         fraction("at", x.at(0), x.at(1), 5, 3);
-        promise = 11;
+        promise(11);
         due("undo(0)", x.undo(0), -3);
         due("undo(13)", x.undo(13), -3);
         due("undo(-1)", x.undo(-1), -3);
@@ -287,7 +243,7 @@ public final class Promises {
     }
 
     private static void rows() {
-        promise = 12;
+        promise(12);
         FractionLift x = told("button:x+1;button:1/(x-2);button:x/2;");
         due("judge missing", x.judge(0, 0), -6);
         due("judge what", x.judge(0, 4), -2);
@@ -309,7 +265,7 @@ public final class Promises {
         }
         tray(x, 2, 3, 4294967296L);
         due("judge of 2 to the 32", x.judge(2, 1), 1);
-        promise = 13;
+        promise(13);
         due("perform(3)", x.perform(3), -6);
         due("perform(4)", x.perform(4), -2);
         x.numbers(3, 0, 9);
@@ -324,7 +280,7 @@ public final class Promises {
     }
 
     private static void days() {
-        promise = 14;
+        promise(14);
         FractionLift x = new FractionLift();
         due("day(1, 0)", x.day(1, 0), -3);
         due("day(1, 61)", x.day(1, 61), -3);
@@ -352,7 +308,7 @@ public final class Promises {
     }
 
     private static void stuffs() {
-        promise = 15;
+        promise(15);
         FractionLift x = told("floor 3 has 10 50 7;floor 1 has 20 40 7;floor 1/2 has 0 90 7;");
         fraction("has told", x.has(0, 2, 2, 0), x.has(0, 2, 2, 1), 20, 1);
         fraction("has below", x.has(0, 1, 4, 0), x.has(0, 1, 4, 1), 0, 1);
@@ -366,7 +322,7 @@ public final class Promises {
         due("has stuff", x.has(-1, -1, 1, 0), -2);
         due("has what", x.has(0, -1, 1, 2), -2);
         due("has floor", x.has(0, 5, 1, 0), -3);
-        promise = 16;
+        promise(16);
         fraction("where 10", x.where(0, 10, 0), x.where(0, 10, 1), 3, 4);
         fraction("where 0", x.where(0, 0, 0), x.where(0, 0, 1), 0, 1);
         fraction("where 19", x.where(0, 19, 0), x.where(0, 19, 1), 39, 40);
@@ -378,7 +334,7 @@ public final class Promises {
         due("where what", x.where(0, 100, 2), -2);
         due("where n", x.where(0, 100, 0), -3);
         due("where n", x.where(0, -1, 0), -3);
-        promise = 17;
+        promise(17);
         due("alike none", x.alike(0, 1, 0), -1);
         fraction("alike", x.alike(0, 2, 0), x.alike(0, 2, 1), 27, 40);
         due("alike one", x.alike(1, 1, 0), -2);
@@ -392,7 +348,7 @@ public final class Promises {
     }
 
     private static void telling() {
-        promise = 18;
+        promise(18);
         FractionLift x = told("floor 3 has 9 1 0;floor 1 has 9 2 0;floor 2 has 8 2 0;");
         due("most(0)", x.most(0), 1);
         due("most(1)", x.most(1), 1);
@@ -400,7 +356,7 @@ public final class Promises {
         due("most(3)", x.most(3), -2);
         due("most(-1)", x.most(-1), -2);
         due("most of none", new FractionLift().most(2), -1);
-        promise = 19;
+        promise(19);
         due("tells", x.tells(10, 4), 3);
         int[] want = {5, 2, 8, 1, 0, 2};
         for (int i = 0; i < 6; i++) {
@@ -422,7 +378,7 @@ public final class Promises {
     }
 
     private static void fewestOnes() {
-        promise = 20;
+        promise(20);
         FractionLift x = told("button:x*2;button:x+1;button:x+2;at 1;");
         due("fewest(1)", x.fewest(1, 1, 0), 0);
         due("fewest(1)", x.fewest(1, 1, 10), -1);
@@ -464,7 +420,7 @@ public final class Promises {
     }
 
     private static void reaching() {
-        promise = 21;
+        promise(21);
         FractionLift x = told("button:x+1;button:x+2;at 1;");
         int[] reach = {1, 2, 2, 1, 0, 0};
         for (int n = 0; n <= 5; n++) {
@@ -474,7 +430,7 @@ public final class Promises {
         due("reach(6)", x.reach(6), -3);
         FractionLift all = told("button:x/2;button:(x+1)/3;button:(x+2)/5;button:(x+3)/7;button:(x+1)/11;button:x/13;at 1;");
         due("reach(1)", all.reach(1), 6);
-        promise = 22;
+        promise(22);
         fraction("highest(2)", x.highest(2, 0), x.highest(2, 1), 4, 1);
         fraction("highest(0)", x.highest(0, 0), x.highest(0, 1), 1, 1);
         due("highest(4)", x.highest(4, 1), -1);
@@ -484,7 +440,7 @@ public final class Promises {
     }
 
     private static void twinRows() {
-        promise = 23;
+        promise(23);
         FractionLift x = told("button:x+1;button:x/2;button:x+1/2;");
         // from 0: one button leads to 1, 0, 1/2; of two 0 0 is 2, 0 1 is 1/2, 0 2 is 3/2, 1 0 is 1, 1 1 is 0, 1 2 is 1/2
         due("twins(0)", x.twins(0), 2);
@@ -506,7 +462,7 @@ public final class Promises {
     }
 
     private static void remainders() {
-        promise = 24;
+        promise(24);
         FractionLift x = told("button:x*4;button:x*2;at 1;");
         due("never(3, 3)", x.never(3, 3, 1), 1);
         due("never(3, 1/3)", x.never(3, 1, 3), 0);
@@ -515,12 +471,12 @@ public final class Promises {
         due("never(1)", x.never(1, 1, 1), -3);
         due("never(31)", x.never(31, 1, 1), -3);
         due("never floor", x.never(3, 5, 1), -3);
-        promise = 25;
+        promise(25);
         due("shown(3)", x.shown(3, 1), 3);
         due("shown(4)", x.shown(4, 1), -1);
         due("shown(1/3)", x.shown(1, 3), 4);
         due("shown floor", x.shown(1, 0), -3);
-        promise = 26;
+        promise(26);
         due("rests(7)", x.rests(7), 1 << 1 | 1 << 2 | 1 << 4);
         due("rests(30)", x.rests(30), 1 << 1 | 1 << 2 | 1 << 4 | 1 << 8 | 1 << 16);
         due("rests(1)", x.rests(1), -3);
@@ -534,12 +490,12 @@ public final class Promises {
         due("below 0", told("button:x-1-1-1;at 1;").rests(3), 2);
         due("0 in a sum", told("button:x+0;at 1;").rests(5), 2);
         FractionLift late = told("button:x/(2*3*5*7)/(11*13)/(17*19)/23*(2*3*5*7)*(11*13)*(17*19)*23;at 1;");
-        promise = 25;
+        promise(25);
         due("shown late", late.shown(2, 1), 29);
     }
 
     private static void meetings() {
-        promise = 27;
+        promise(27);
         FractionLift x = told("button:x+1;tenant 0;tenant 2;tenant 0/5;tenant 1/2;");
         due("meet at once", x.meet(0, 2, false, 0), 0);
         due("never meet", x.meet(0, 1, false, 0), -1);
@@ -565,7 +521,7 @@ public final class Promises {
     }
 
     private static void addresses() {
-        promise = 28;
+        promise(28);
         FractionLift x = new FractionLift();
         int[] terms = {3, 7, 16};
         due("address(355/113)", x.address(355, 113, -1), 3);
@@ -579,7 +535,7 @@ public final class Promises {
         due("address k", x.address(0, 3, -2), -1);
         due("address floor", x.address(1, 0, -1), -3);
         due("address long", x.address(514229, 832040, -1), 29);
-        promise = 29;
+        promise(29);
         fraction("above", x.neighbour(1, 3, 7, true, 0), x.neighbour(1, 3, 7, true, 1), 2, 5);
         fraction("below", x.neighbour(1, 3, 7, false, 0), x.neighbour(1, 3, 7, false, 1), 2, 7);
         fraction("of what is none of them", x.neighbour(355, 113, 10, true, 0), x.neighbour(355, 113, 10, true, 1), 22, 7);
@@ -591,7 +547,7 @@ public final class Promises {
         due("neighbour d", x.neighbour(1, 1, 0, true, 0), -3);
         due("neighbour d", x.neighbour(1, 1, 1001, true, 0), -3);
         due("neighbour floor", x.neighbour(5, 1, 9, true, 0), -3);
-        promise = 30;
+        promise(30);
         fraction("simplest", x.simplest(7, 5, 10, 7, 0), x.simplest(10, 7, 7, 5, 1), 17, 12);
         fraction("least of like ones", x.simplest(1, 2, 7, 2, 0), x.simplest(1, 2, 7, 2, 1), 1, 1);
         fraction("from a whole one", x.simplest(1, 1, 2, 1, 0), x.simplest(1, 1, 2, 1, 1), 3, 2);
@@ -604,7 +560,7 @@ public final class Promises {
     }
 
     private static void counting() {
-        promise = 31;
+        promise(31);
         FractionLift x = told("top 2;");
         int[] floors = {3, 5, 9, 13, 21};
         for (int d = 1; d <= 5; d++) {
@@ -613,7 +569,7 @@ public final class Promises {
         due("floors(200)", x.floors(200), 2 * 12232 + 1);
         due("floors(0)", x.floors(0), -3);
         due("floors(201)", x.floors(201), -3);
-        promise = 32;
+        promise(32);
         due("rank(0)", x.rank(0, 1, 200), 0);
         due("rank(2)", x.rank(2, 1, 5), 20);
         due("rank(1/2)", x.rank(2, 4, 5), 5);
@@ -622,7 +578,7 @@ public final class Promises {
         due("rank d", x.rank(1, 1, 0), -3);
         due("rank d", x.rank(1, 1, 201), -3);
         due("rank floor", x.rank(3, 1, 1), -3);
-        promise = 33;
+        promise(33);
         due("parts(4/5)", x.parts(4, 5, -1), 3);
         int[] ns = {2, 4, 20, -1};
         for (int k = 0; k < 4; k++) {
@@ -638,18 +594,18 @@ public final class Promises {
     }
 
     private static void rentals() {
-        promise = 34;
+        promise(34);
         FractionLift x = told("floor 0 has 0 9 9;floor 3 has 10 9 9;tenant 1;tenant 1/2;tenant 4;");
         fraction("rent(0)", x.rent(0, 0), x.rent(0, 1), 10, 3);
         fraction("rent(2)", x.rent(2, 0), x.rent(2, 1), 10, 1);
         due("rent(3)", x.rent(3, 0), -2);
         due("rent(-1)", x.rent(-1, 0), -2);
         due("rent what", x.rent(0, 2), -2);
-        promise = 35;
+        promise(35);
         due("rents()", x.rents(), 333 + 166 + 1000);
-        promise = 38;
+        promise(38);
         due("richest()", x.richest(), 2);
-        promise = 36;
+        promise(36);
         due("moves more", x.moves(0, 7, 2), 1);
         due("moves as much", x.moves(2, 6, 2), 0);
         due("moves less", x.moves(2, 2, 99), -1);
@@ -659,14 +615,14 @@ public final class Promises {
         due("moves floor", x.moves(0, 1, 100), -3);
         due("moves floor", x.moves(0, 5, 500), -3);
         due("moves floor", x.moves(0, 400, 200), -1);
-        promise = 38;
+        promise(38);
         due("richest()", x.richest(), 0);
         due("richest of none", new FractionLift().richest(), -1);
         due("the first of like ones", told("tenant 1;tenant 2;").richest(), 0);
     }
 
     private static void fairness() {
-        promise = 37;
+        promise(37);
         FractionLift x = told("tenant 1;tenant 0;tenant 7/99;tenant 4;tenant 3;");
         fraction("fairest(0)", x.fairest(0, 0), x.fairest(0, 1), 1, 12);
         fraction("how far", x.fairest(0, 2), x.fairest(0, 3), 686, 99);
@@ -682,7 +638,7 @@ public final class Promises {
     }
 
     private static void seenOnes() {
-        promise = 39;
+        promise(39);
         FractionLift x = told("button:x+1;button:x+2;button:x/2;floor 2 has 0 0 0;floor 3 has 0 0 0;floor 4 has 0 0 0;");
         due("fits missing", x.fits(0, -1), -6);
         due("fits tray", x.fits(4, -1), -2);
@@ -705,7 +661,7 @@ public final class Promises {
         due("no told floor", x.fits(2, -1), -3);
         tray(x, 2, 1, -1, -1);
         due("all rows", x.fits(2, -1), 9);
-        promise = 40;
+        promise(40);
         due("sure(0)", x.sure(0, 0), -1);
         due("sure(1)", x.sure(0, 1), -1);
         due("sure(2)", x.sure(0, 2), 1);
@@ -732,7 +688,7 @@ public final class Promises {
     }
 
     private static void chances() {
-        promise = 41;
+        promise(41);
         FractionLift x = told("button:x+1;button:1/x;button:x-4;stick 3;");
         due("odds missing", x.odds(0, 9, 1), -6);
         due("odds tray", x.odds(4, 9, 1), -2);
@@ -752,7 +708,7 @@ public final class Promises {
         due("odds button", x.odds(1, 1, 1), -3);
         tray(x, 1, 0, 2, 2, 2, 2, 2, 2, 2, 2);
         due("one that can't be", x.odds(1, 0, 1), 100000000);
-        promise = 42;
+        promise(42);
         due("ends(0)", x.ends(0), 3);
         due("ends(1)", x.ends(1), 1);
         tray(x, 1, 0, 7);
@@ -769,7 +725,7 @@ public final class Promises {
     }
 
     private static void trays() {
-        promise = 43;
+        promise(43);
         FractionLift x = told("at 25/7;");
         due("numbers tray", x.numbers(4, 0, 41), -2);
         due("numbers tray", x.numbers(-1, 0, 1), -2);
@@ -780,7 +736,7 @@ public final class Promises {
         due("write last", x.write(0, 39, 127), 127);
         due("numbers n", x.numbers(0, 0, -1), -3);
         due("the tray stays", x.write(0, 39, 128), -128);
-        promise = 44;
+        promise(44);
         long v = 0x1234567890abcdefL;
         for (int sort = 0; sort < 4; sort++) {
             due("numbers", x.numbers(1, sort, 1), 0);
@@ -792,7 +748,7 @@ public final class Promises {
         due("write place", x.write(1, -1, 0), -7);
         x.numbers(2, 1, 0);
         due("write into none", x.write(2, 0, 0), -7);
-        promise = 45;
+        promise(45);
         due("copy tray", x.copy(4), -2);
         due("copy missing", x.copy(3), -6);
         due("copy into none", x.copy(2), 0);
@@ -833,7 +789,7 @@ public final class Promises {
     }
 
     private static void images() {
-        promise = 46;
+        promise(46);
         FractionLift x = told("top 3;button:x+1;floor 1 has 7 8 9;tenant 2;stick 5;");
         due("image(2)", x.image(2), -2);
         due("image(-1)", x.image(-1), -2);
@@ -845,7 +801,7 @@ public final class Promises {
         due("press", x.press(0), 3);
         due("house", tell(x, "button:1/x;button:x;"), 2);
         due("fault", tell(x, "lift"), -32);
-        promise = 47;
+        promise(47);
         due("restore(0)", x.restore(0), -5);
         due("restore(2)", x.restore(2), -2);
         due("restore(-1)", x.restore(-1), -2);
@@ -864,7 +820,7 @@ public final class Promises {
         due("at(0)", x.at(0), 2);
         due("image over it", x.image(1), 0);
         due("floor(0, 4)", x.floor(0, 4), 9);
-        promise = 48;
+        promise(48);
         due("count(9)", x.count(9), -1);
         due("count(-1)", x.count(-1), -1);
     }
@@ -896,9 +852,6 @@ public final class Promises {
         chances();
         trays();
         images();
-        System.out.println(wrong == 0 ? "all promises are kept" : wrong + " answers are not as due");
-        if (wrong != 0) {
-            System.exit(1);
-        }
+        finish();
     }
 }
