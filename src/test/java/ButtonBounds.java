@@ -103,6 +103,10 @@ public final class ButtonBounds extends Bench {
         comesOut(x, 3, 3, 1, 5, 2);
         comesOut(x, 4, 1, 1, 4, 3);
         comesOut(x, 5, 1, 7, 62, 7);
+        FractionLift below = told("button:3-x/(0-2);button:(0-x)/(0-2/3);button:4+2/(x-4);");
+        comesOut(below, 0, 2, 3, 10, 3);
+        comesOut(below, 1, 5, 7, 15, 14);
+        comesOut(below, 2, 1, 2, 24, 7);
         sentence("it can't be: 1 no such BUTTON;");
         cantBe(x, -1, 1, 1, 1);
         comesOut(x, 5, 9, 1, 0, 1);

@@ -32,6 +32,9 @@ public final class RouteBounds extends Bench {
         fewestRow(thirds, 7, 3, 0, 0, 0, 0, 0, 0, 0);
         fewestRow(thirds, 8, 3, 0, 0, 0, 0, 0, 0, 0, 0);
         fewestIs(thirds, 3, 1, NONE);
+        FractionLift asked = told("button:x-1;");
+        due("leads(0, 3/1)", asked.leads(0, 3, 1, 0), 2);
+        fewestIs(asked, 2, 1, NONE);
         sentence("its row: the first by numbers, of those that are fewest.");
         FractionLift like = told("button:x+2;button:x+1;button:x+1;button:x+2;");
         fewestRow(like, 1, 1, 1);
@@ -104,6 +107,10 @@ public final class RouteBounds extends Bench {
         fraction("highest(5)", all.highest(5, 0), all.highest(5, 1), 28011, 33614);
         fraction("highest(3)", x.highest(3, 0), x.highest(3, 1), 4, 1);
         fraction("highest(4)", x.highest(4, 0), x.highest(4, 1), NONE, NONE);
+        FractionLift close = told("button:1/3;button:3/8;button:2/5;button:5/13;");
+        fraction("highest(1)", close.highest(1, 0), close.highest(1, 1), 2, 5);
+        FractionLift great = told("top 1;button:x/3;button:999*999/(999*999+1);button:996*999/(999*999-2);button:1/2;");
+        fraction("highest(1)", great.highest(1, 0), great.highest(1, 1), 998001, 998002);
         refused("highest what", -2, y -> y.highest(6, -1));
         refused("highest what", -2, y -> y.highest(-1, 2));
         refused("highest n", -3, y -> y.highest(-1, 0));
@@ -133,6 +140,9 @@ public final class RouteBounds extends Bench {
         noTwins(told("button:x/3;button:x+1/5;at 1/97;"));
         noTwins(told("button:x+1;"));
         noTwins(new FractionLift());
+        FractionLift asked = told("button:x-1;button:x-2;");
+        due("leads(0, 3/1)", asked.leads(0, 3, 1, 0), 2);
+        noTwins(asked);
         noTwins(told(SEVENTHS));
         sentence("TWINS, what 0: n, 10 + k: the k-th BUTTON of the first of both, 20 + k: of the other (NONE: not so many). "
                 + "NONE: none to 5; -2 (k to 4).");
@@ -217,7 +227,8 @@ public final class RouteBounds extends Bench {
         due("never(29)", late.never(29, 1, 1), 0);
         due("never(30)", late.never(30, 1, 1), 1);
         due("shown(1)", late.shown(1, 1), 30);
-        FractionLift none = told(ONLY_BY_30 + "button:61/31;");
+        // by 30 it is 1, too; by 31 it would be shown
+        FractionLift none = told(ONLY_BY_30 + "button:67/37;");
         due("shown(1)", none.shown(1, 1), NONE);
         refused("shown floor", -3, y -> y.shown(6, 1));
         refused("shown floor", -3, y -> y.shown(1, 0));
@@ -267,6 +278,7 @@ public final class RouteBounds extends Bench {
         // by two turns 2 and 3 are common to both
         meets(told("button:x+1;button:x/2;button:4-x;tenant 1;tenant 3;"), 0, 1, false, 2, 2, 1);
         meets(told("button:x+3;button:x+1/2;button:x+2;button:x/4;at 4;tenant 0;tenant 1;"), 0, 1, false, 1, 3, 1);
+        meets(told("button:2/5;button:3/8;button:1/2;button:5/13;tenant 1;tenant 2;"), 0, 1, false, 1, 3, 8);
         sentence("MEET, what 0: turns, 1: upper, 2: lower number of the FLOOR. NONE; -2: a tenant, both one, what.");
         refused("meet(-1, 0)", -2, y -> y.meet(-1, 0, true, 0));
         refused("meet(3, 0)", -2, y -> y.meet(3, 0, true, 0));

@@ -61,6 +61,11 @@ public final class SeenBounds extends Bench {
         refused(() -> seen(NONE, -2), "floor -2", -3, y -> y.fits(0, NONE));
         refused(() -> seen(4294967296L, 0), "floor 2 to the 32", -3, y -> y.fits(0, NONE));
         refused(() -> seen(4294967295L, 0), "floor 2 to the 32 less 1", -3, y -> y.fits(0, NONE));
+        FractionLift without = told("button:x;");
+        tray(without, 0, 0, NONE, NONE);
+        due("without told floors", without.fits(0, NONE), 1);
+        tray(without, 0, 0, NONE, 0);
+        due("without told floors", without.fits(0, NONE), -3);
         due("without buttons", unknown(0, 8).fits(0, NONE), 0);
         due("without buttons", unknown(0, 2).fits(0, 0), NONE);
     }

@@ -74,6 +74,11 @@ public final class StuffBounds extends Bench {
         whereAt(one, 0, 4, NONE, NONE);
         whereAt(one, 0, 5, 0, 1);
         whereAt(one, 0, 6, NONE, NONE);
+        FractionLift eight = floors(8);
+        whereAt(eight, 0, 7, 7, 1);
+        whereAt(eight, 0, 8, NONE, NONE);
+        whereAt(eight, 1, 1, 0, 1);
+        whereAt(eight, 2, 0, NONE, NONE);
         refused("where stuff", -2, y -> y.where(-1, 100, 0));
         refused("where stuff", -2, y -> y.where(3, 100, 0));
         refused("where what", -2, y -> y.where(0, -1, -1));
@@ -102,6 +107,9 @@ public final class StuffBounds extends Bench {
         alikeAt(told("floor 4 has 1 1 0;"), 0, 1, 0, 1);
         alikeAt(told("floor 4 has 1 0 0;"), 0, 1, NONE, NONE);
         alikeAt(new FractionLift(), 1, 2, 0, 1);
+        FractionLift eight = floors(8);
+        alikeAt(eight, 0, 1, 1, 1);
+        alikeAt(eight, 1, 2, 0, 1);
         // no floor: 1/99 + 99/197 of (97/98 - 1/99)
         alikeAt(told("floor 1/99 has 99 0 0;floor 97/98 has 0 98 0;"), 0, 1, 960301, 1911294);
         refused("alike stuff", -2, y -> y.alike(-1, 0, 0));
@@ -242,6 +250,11 @@ public final class StuffBounds extends Bench {
         isFairest("tenant 0;tenant 4;", 0, 4, 1, 0, 1);
         isFairest("top 9;tenant 0;tenant 890/99;", 0, 9, 1, 1, 99);
         isFairest("tenant 0;tenant 47/12;", 0, 47, 12, 0, 1);
+        isFairest("tenant 0;tenant 2/5;", 0, 2, 5, 0, 1);
+        isFairest("tenant 0;tenant 25/7;", 0, 25, 7, 0, 1);
+        isFairest("tenant 5/11;tenant 4;", 1, 5, 11, 0, 1);
+        isFairest("tenant 2/97;tenant 4;", 1, 0, 1, 2, 97);
+        isFairest("tenant 2/97;tenant 4;tenant 3/97;", 1, 0, 1, 5, 97);
         isFairest("tenant 4;tenant 1;tenant 2;", 0, 1, 1, 1, 1);
         isFairest("tenant 4;tenant 1;tenant 2;tenant 3;", 0, 2, 1, 2, 1);
         isFairest("tenant 2;tenant 1/24;", 0, 0, 1, 1, 24);

@@ -1,15 +1,37 @@
 /** The bounds of the text and its faults, and promises 1 to 4: each sentence that names a boundary, on both sides. */
 public final class TextBounds extends Bench {
-    /** The text is read without a fault. */
+    /** An object that has read texts of all kinds, with and without faults. */
+    private static FractionLift worn() {
+        String text = "top 9;button:x-1;button:2*x;floor 1 has 9 8 7;floor 2 has 6 5 4;floor 1/2 has 3 2 1;tenant 2;tenant 3;"
+                + "stick 8;at 7;";
+        FractionLift x = told(text);
+        due("house", tell(x, text), 10);
+        due("house", tell(x, text), 10);
+        due("house with a fault", tell(x, text + "button:1-(x*(x-"), -32);
+        return x;
+    }
+
+    /** The text is read without a fault, and no other one that was read ahead of it is seen. */
     private static void good(String text, int lines) {
         FractionLift x = new FractionLift();
-        due("house of " + text, tell(x, text), lines);
-        due("fault(0) of " + text, x.fault(0), 0);
-        due("fault(1) of " + text, x.fault(1), NONE);
+        FractionLift again = worn();
+        for (FractionLift one : new FractionLift[] {x, again}) {
+            due("house of " + text, tell(one, text), lines);
+            due("fault(0) of " + text, one.fault(0), 0);
+            due("fault(1) of " + text, one.fault(1), NONE);
+        }
+        unchanged("house of " + text, again, x);
     }
 
     private static void bad(String text, int kind, int place) {
-        FractionLift x = new FractionLift();
+        badOn(new FractionLift(), text, kind, place);
+        badOn(worn(), text, kind, place);
+        if (place < text.length()) {
+            badOn(new FractionLift(), text + " ;stick 10;!", kind, place);
+        }
+    }
+
+    private static void badOn(FractionLift x, String text, int kind, int place) {
         due("house of " + text, tell(x, text), -30 - kind);
         due("fault(0) of " + text, x.fault(0), kind);
         due("fault(1) of " + text, x.fault(1), place);
@@ -29,6 +51,13 @@ public final class TextBounds extends Bench {
         feed(shorter, text);
         due("house(899)", shorter.house(899), -32);
         due("fault(1)", shorter.fault(1), 899);
+        FractionLift cut = new FractionLift();
+        feed(cut, "attic");
+        due("house(2), though the word goes on", cut.house(2), -32);
+        due("fault(1)", cut.fault(1), 2);
+        feed(cut, "at 31;");
+        due("house(4), though the number goes on", cut.house(4), -32);
+        due("fault(1)", cut.fault(1), 4);
         FractionLift signs = new FractionLift();
         due("many tokens", tell(signs, "button:x" + times(445, "+0") + ";"), 1);
         fraction("many tokens", signs.leads(0, 3, 2, 0), signs.leads(0, 3, 2, 1), 3, 2);
@@ -112,6 +141,17 @@ public final class TextBounds extends Bench {
         bad("7;", 2, 0);
         bad("tops 3;", 2, 0);
         bad("to 3;", 2, 0);
+        String[] words = {"top", "button", "floor", "has", "tenant", "at", "stick", "x", "y"};
+        for (String word : words) {
+            if (!word.equals("has")) {
+                bad("floor 1 " + word + " 1 2 3;", 2, 8);
+            }
+            if (!word.equals("x") && !word.equals("top")) {
+                bad("button:" + word + ";", 2, 7);
+            }
+            bad("at " + word + ";", 2, 3);
+            bad("stick 1 " + word, 2, 8);
+        }
         sentence("FRACTION: N [ / N ].");
         good("at 1;", 1);
         good("at 1/2;", 1);

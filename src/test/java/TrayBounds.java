@@ -187,7 +187,7 @@ public final class TrayBounds extends Bench {
         due("moves", x.moves(0, 1, 1), 0);
         due("press", x.press(0), 3);
         tray(x, 0, 0, 1);
-        due("house", tell(x, "top 9;button:1/x;button:x;button:x;at 7/3;floor 5 has 1 1 1;"), 6);
+        due("house", tell(x, "top 9;button:1/x;button:x;button:x;at 7/3;floor 5 has 1 1 1;tenant 1;"), 7);
         due("fault", tell(x, "lift"), -32);
         feed(x, "at 2;");
         due("restore(" + i + ")", x.restore(i), 0);

@@ -185,6 +185,8 @@ abstract class Bench {
             answers.add((long) x.restore(i));
             askHouse(x, answers);
         }
+        answers.add((long) x.tells(1, 1));
+        answers.add((long) x.tells(1, 2));
     }
 
     private static void askHouse(FractionLift x, List<Long> answers) {
@@ -203,5 +205,10 @@ abstract class Bench {
         for (int b = 0; b < x.count(1); b++) {
             answers.add((long) x.leads(b, 3, 1, 0));
         }
+        answers.add(x.has(0, 1, 3, 0));
+        answers.add(x.has(1, 3, 1, 0));
+        answers.add(x.where(0, 9, 1));
+        answers.add(x.alike(0, 1, 1));
+        answers.add((long) x.most(2));
     }
 }
