@@ -186,7 +186,7 @@ public final class ButtonBounds extends Bench {
             due("why(" + b + ")", x.why(b), why[b]);
         }
         due("why(-1)", x.why(-1), 1);
-        sentence("-2: what; -3: the FLOOR; -11 to -14.");
+        sentence("Where a BUTTON leads from a FLOOR, what 0: upper, 1: lower number. -2: what; -3: the FLOOR; -11 to -14.");
         refused("leads what", -2, y -> y.leads(9, 9, 0, 2));
         refused("leads what", -2, y -> y.leads(0, 1, 1, -1));
         refused("leads floor", -3, y -> y.leads(9, 6, 1, 0));
@@ -220,6 +220,12 @@ public final class ButtonBounds extends Bench {
     }
 
     private static void undoing() {
+        sentence("PRESSED: the lift is AT the FLOOR to which it leads.");
+        FractionLift once = told("button:x/3+1/2;button:x-1;at 1;");
+        due("press(0)", once.press(0), 1);
+        fraction("at", once.at(0), once.at(1), 5, 6);
+        due("press(1)", once.press(1), -14);
+        fraction("at", once.at(0), once.at(1), 5, 6);
         sentence("The latest 12 can be UNDONE (AT as it was; nothing else, eldest are forgotten).");
         FractionLift twelve = pressed(12);
         due("undo(12)", twelve.undo(12), 0);

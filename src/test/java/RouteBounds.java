@@ -290,6 +290,26 @@ public final class RouteBounds extends Bench {
         due("meet(2, 0)", fullHouse().meet(2, 0, true, 0), 1);
     }
 
+    private static void noneSticks() {
+        sentence("Below no button sticks, but for ODDS.");
+        FractionLift x = told("button:x+1;floor 1 has 0 0 0;floor 2 has 0 0 0;tenant 0;tenant 1;stick 9;");
+        fewestRow(x, 4, 1, 0, 0, 0, 0);
+        due("reach(2)", x.reach(2), 1);
+        due("highest(2)", x.highest(2, 0), 2);
+        noTwins(x);
+        due("meet", x.meet(0, 1, false, 0), NONE);
+        tray(x, 0, 0, 0, 1);
+        due("fits", x.fits(0, NONE), 1);
+        due("sure", x.sure(0, 1), 0);
+        tray(x, 0, 0, 0, 0);
+        due("judge", x.judge(0, 2), 2);
+        due("perform", x.perform(0), 2);
+        due("press", x.press(0), 3);
+        due("odds(3)", x.odds(0, 3, 1), 81);
+        due("odds(4)", x.odds(0, 4, 1), 10 + 9);
+        due("ends", x.ends(0), 2);
+    }
+
     public static void main(String[] args) {
         fewest();
         spent();
@@ -298,6 +318,7 @@ public final class RouteBounds extends Bench {
         remainders();
         never();
         meeting();
+        noneSticks();
         finish();
     }
 }

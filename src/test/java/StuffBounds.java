@@ -186,6 +186,11 @@ public final class StuffBounds extends Bench {
     // ---- rents
 
     private static void rents() {
+        sentence("RENT of a tenant: STUFF 0 at its FLOOR.");
+        FractionLift one = told("floor 0 has 5 6 7;floor 2 has 8 9 6;tenant 1;");
+        fraction("rent(0)", one.rent(0, 0), one.rent(0, 1), 13, 2);
+        due("tells", one.tells(1, 1), 2);
+        fraction("rent(0), as the floor there was cut", one.rent(0, 0), one.rent(0, 1), 6, 1);
         sentence("RENT of a tenant, what 0: upper, 1: lower number. -2.");
         FractionLift x = told("floor 0 has 0 9 9;floor 3 has 2 9 9;tenant 1;tenant 1;tenant 4/2;tenant 4;tenant 0;");
         long[][] rents = {{2, 3}, {2, 3}, {4, 3}, {2, 1}, {0, 1}};

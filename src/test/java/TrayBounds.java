@@ -245,6 +245,21 @@ public final class TrayBounds extends Bench {
         due("NONE", FractionLift.NONE, -1);
         sentence("`SPENT = -1000`: Too many FLOORS were met.");
         due("SPENT", FractionLift.SPENT, -1000);
+        sentence("-2 there is none such; -3 a number can't be; -4 too many; -5 it can't be now; -6 a TRAY is MISSING; -7 it has no "
+                + "such number; -11 to -14 a BUTTON can't be (1 to 4); -30 less the FAULT: a text.");
+        FractionLift none = told("button:1/(x-1);button:999*999*999*999*x;button:x-2;at 1;");
+        none.numbers(0, 0, 9);
+        due("-2", none.at(2), -2);
+        due("-3", none.undo(1), -3);
+        due("-4", none.judge(0, 0), -4);
+        due("-5", none.restore(0), -5);
+        due("-6", none.perform(1), -6);
+        due("-7", none.write(0, 9, 0), -7);
+        int[] cantBe = {-12, -13, -14, -11};
+        for (int b = 0; b < cantBe.length; b++) {
+            due("press(" + b + ")", none.press(b), cantBe[b]);
+        }
+        due("-30 less the FAULT", tell(none, "at 1000;"), -31);
         sentence("(Of several that which the call tells first; all these ahead of SPENT and NONE.)");
         FractionLift x = fullHouse();
         due("judge: the TRAY, what; -6", x.judge(3, 4), -2);
