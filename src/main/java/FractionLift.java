@@ -1755,7 +1755,7 @@ public final class FractionLift {
 
         /** Looks at a token; the last one is never left. */
         private void lookAt(int i) {
-            index = Math.min(i, tokens.size - 1);
+            index = i < tokens.size ? i : tokens.size - 1;
             if (index >= 0) {
                 kind = tokens.kinds[index];
                 place = tokens.places[index];

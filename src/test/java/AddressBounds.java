@@ -186,6 +186,13 @@ public final class AddressBounds extends Bench {
             refused("parts(290/1483, " + k + ")", -4, y -> y.parts(290, 1483, k));
         }
         refused("parts(2/999999)", -4, y -> y.parts(2, 999999, 0));
+        areParts(x, 34279, 55417, 2, 9, 135, 21654, 999999765);
+        areParts(x, 998501, 999000, 2, 3, 7, 43, 18447, 999999000);
+        // every n would be below 1,000,000,000 here, but what is left on the way has a lower number above it:
+        // 1,805,116,866 behind 2, 3, 7, 43 (then 5934, 902558433), and 1,000,000,092
+        refused("parts(999126/999511)", -4, y -> y.parts(999126, 999511, NONE));
+        refused("parts(999126/999511, 0)", -4, y -> y.parts(999126, 999511, 0));
+        refused("parts(911626/915751)", -4, y -> y.parts(911626, 915751, NONE));
         sentence("PARTS, k NONE: how many, else the k-th n. NONE: not so many; -3: the FLOOR;");
         due("parts(1/2, -2)", x.parts(1, 2, -2), NONE);
         due("parts(1/2, least)", x.parts(1, 2, Integer.MIN_VALUE), NONE);

@@ -78,11 +78,14 @@ public final class LanguageCheck {
         return all;
     }
 
-    /** How many calls stand open at once below a method, a call of itself not counted. */
+    /** How many calls stand open at once, the library's too; a call of itself is not counted. */
     private static int depth(Method of, Map<String, List<Method>> byName, List<Method> open) {
         int deepest = 0;
         Matcher m = Pattern.compile("(\\w+)\\(").matcher(of.body);
         while (m.find()) {
+            if (!byName.containsKey(m.group(1))) {
+                deepest = Math.max(deepest, 1);
+            }
             for (Method next : byName.getOrDefault(m.group(1), List.of())) {
                 if (!open.contains(next)) {
                     open.add(next);
