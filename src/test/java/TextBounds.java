@@ -481,6 +481,19 @@ public final class TextBounds extends Bench {
         unchanged("house", once, twice);
     }
 
+    /** What one long text needs is there for the next one, too, and so it is behind a fault. */
+    private static void longTexts() {
+        sentence("The first n bytes of THE TAPE (which is empty then) are THE HOUSE,");
+        FractionLift x = new FractionLift();
+        String zero = times(220, "x-x+");
+        for (int k = 1; k <= 4; k++) {
+            due("a long text", tell(x, "button:" + zero + k + ";"), 1);
+            fraction("leads", x.leads(0, 7, 3, 0), x.leads(0, 7, 3, 1), k, 1);
+            due("a long text with a fault", tell(x, "button:" + zero + "8"), -32);
+            fraction("leads as before", x.leads(0, 7, 3, 0), x.leads(0, 7, 3, 1), k, 1);
+        }
+    }
+
     private static void faults() {
         sentence("Of the latest house() that was read, what 0: its FAULT (0), 1: its place (NONE). NONE for others.");
         FractionLift x = new FractionLift();
@@ -519,6 +532,7 @@ public final class TextBounds extends Bench {
         firstFault();
         feeding();
         reading();
+        longTexts();
         faults();
         finish();
     }
